@@ -53,7 +53,7 @@ public final class MaypoleRegister {
     private static final int NOTHING_SLIPS = 2;
 
     private final Tokens tape = new Tokens();
-    private final TextReader reader = new TextReader();
+    private final TextReader reader = new TextReader(tape);
     private Script told = new Script();
     private Script spare = new Script();
     private int latestFault = 0;
@@ -88,7 +88,7 @@ public final class MaypoleRegister {
         if (n < 0 || n > tape.size) {
             return NOT_SO;
         }
-        boolean stands = reader.reads(tape, n, spare);
+        boolean stands = reader.reads(n, spare);
         tape.size = 0;
         latestFault = reader.fault;
         latestPlace = reader.place;
@@ -763,17 +763,10 @@ public final class MaypoleRegister {
                 case '*': sign = TIMES; break;
                 case '/': sign = DIVIDED; break;
                 case '=': sign = SAME; break;
-                case '<': sign = stepBehindBelow(); break;
+                case '<': sign = stepOver('=') ? LESS_OR_SAME : stepOver('>') ? OTHER : LESS; break;
                 case '>': sign = stepOver('=') ? MORE_OR_SAME : MORE; break;
                 default: kind = BAD; break;
             }
-        }
-
-        private int stepBehindBelow() {
-            if (stepOver('=')) {
-                return LESS_OR_SAME;
-            }
-            return stepOver('>') ? OTHER : LESS;
         }
 
         private boolean stepOver(int wanted) {
@@ -947,15 +940,12 @@ public final class MaypoleRegister {
                 case MORE: return bit(left > right);
                 case PLUS: return left + right;
                 case MINUS: return left - right;
-                case TIMES: return isTooLarge(left, right) ? ERROR : left * right;
+                // looked at ahead of it: a product beyond a value may be beyond a long
+                case TIMES:
+                    return right != 0 && Math.abs(left) > LARGEST_VALUE / Math.abs(right) ? ERROR : left * right;
                 case DIVIDED: return right == 0 ? ERROR : left / right;
                 default: return ERROR;
             }
-        }
-
-        /** Whether a product is beyond what a value may be: looked at ahead of it, for a long would wrap. */
-        private static boolean isTooLarge(long left, long right) {
-            return right != 0 && Math.abs(left) > LARGEST_VALUE / Math.abs(right);
         }
     }
 
@@ -967,7 +957,7 @@ public final class MaypoleRegister {
 
         int fault = 0;
         int place = NONE;
-        private Tokens tokens = null;
+        private final Tokens tokens;
         /** The signs of an E that wait for what they join, and every '(' that is open. */
         private final int[] waiting = new int[MOST_KNOTS + MOST_OPEN];
         private int waitingCount = 0;
@@ -975,49 +965,61 @@ public final class MaypoleRegister {
         private boolean wantsOperand = true;
         private boolean mayNegate = true;
 
-        boolean reads(Tokens from, int length, Script into) {
-            tokens = from;
+        TextReader(Tokens tokens) {
+            this.tokens = tokens;
+        }
+
+        boolean reads(int length, Script script) {
             fault = 0;
             place = NONE;
-            from.begin(length);
-            into.clear();
+            tokens.begin(length);
+            script.clear();
             for (int i = 0; i <= TAPE_LENGTH; i++) {
-                from.step();
-                if (from.kind == Tokens.END) {
+                tokens.step();
+                if (tokens.kind == Tokens.END) {
                     return true;
                 }
-                if (!readLine(from, into)) {
+                if (!readLine(script)) {
                     return false;
                 }
-                into.lines++;
+                script.lines++;
             }
             return false;
         }
 
         private boolean fail(int number) {
             fault = number;
-            place = tokens == null ? NONE : tokens.place;
+            place = tokens.place;
             return false;
         }
 
-        private boolean readLine(Tokens tokens, Script script) {
+        private boolean readLine(Script script) {
             if (!tokens.isWord(Word.LINE)) {
                 return fail(WRONG);
             }
             Word word = tokens.word;
             if (word == Word.DANCER) {
-                return readDancer(tokens, script);
+                return readDancer(script);
             }
             if (word == Word.OVER || word == Word.UNDER) {
-                return readTelling(tokens, script, word == Word.OVER);
+                return readTelling(script, word == Word.OVER);
             }
             if (word == Word.SLIP) {
-                return readSlip(tokens, script);
+                return readSlip(script);
             }
-            return word == Word.SEED ? readSeed(tokens, script) : readLaw(tokens, script);
+            if (word == Word.SEED) {
+                return readSeed(script);
+            }
+            int rule = readRule(script);
+            int start = script.knotCount;
+            if (rule == NONE || !readExpression(script)) {
+                return false;
+            }
+            script.setLaw(rule, start);
+            return true;
         }
 
-        private boolean readDancer(Tokens tokens, Script script) {
+        private boolean readDancer(Script script) {
             if (script.dancers >= MOST_DANCERS) {
                 return fail(TOO_MUCH);
             }
@@ -1029,66 +1031,63 @@ public final class MaypoleRegister {
                 return fail(TOLD_ALREADY);
             }
             script.addDancer(tokens.letters);
-            return readLineEnd(tokens);
+            return readLineEnd();
         }
 
-        private boolean readTelling(Tokens tokens, Script script, boolean over) {
+        private boolean readTelling(Script script, boolean over) {
             if (script.tellings >= MOST_TELLINGS) {
                 return fail(TOO_MUCH);
             }
-            if (!readNumber(tokens, 99)) {
+            if (!readNumber(99)) {
                 return false;
             }
             int year = tokens.number;
-            if (!readNumber(tokens, MOST_DANCERS - 2)) {
+            if (!readNumber(MOST_DANCERS - 2)) {
                 return false;
             }
             script.addTelling(year, codeOf(tokens.number, over));
-            return readLineEnd(tokens);
+            return readLineEnd();
         }
 
-        private boolean readSlip(Tokens tokens, Script script) {
+        private boolean readSlip(Script script) {
             if (script.hasSlip) {
                 return fail(TOLD_ALREADY);
             }
-            if (!readNumber(tokens, 100)) {
+            if (!readNumber(100)) {
                 return false;
             }
             script.hasSlip = true;
             script.slip = tokens.number;
-            return readLineEnd(tokens);
+            return readLineEnd();
         }
 
-        private boolean readSeed(Tokens tokens, Script script) {
+        private boolean readSeed(Script script) {
             if (script.hasSeed) {
                 return fail(TOLD_ALREADY);
             }
-            if (!readNumber(tokens, 99999)) {
+            if (!readNumber(99999)) {
                 return false;
             }
             script.hasSeed = true;
             script.seed = tokens.number;
-            return readLineEnd(tokens);
+            return readLineEnd();
         }
 
-        private boolean readLaw(Tokens tokens, Script script) {
+        /** The RULE of a law, or NONE behind a FAULT. */
+        private int readRule(Script script) {
             tokens.step();
             if (!tokens.isWord(Word.RULE)) {
-                return fail(WRONG);
+                fail(WRONG);
+                return NONE;
             }
-            int rule = tokens.wordNumber();
-            if (script.hasLaw(rule)) {
-                return fail(TOLD_ALREADY);
+            if (script.hasLaw(tokens.wordNumber())) {
+                fail(TOLD_ALREADY);
+                return NONE;
             }
-            int start = script.knotCount;
-            if (!readExpression(tokens, script)) {
-                return false;
-            }
-            script.setLaw(rule, start);
-            return true;
+            return tokens.wordNumber();
         }
 
-        private boolean readNumber(Tokens tokens, int most) {
+        private boolean readNumber(int most) {
             tokens.step();
             if (tokens.kind != Tokens.NUMBER) {
                 return fail(WRONG);
@@ -1096,13 +1095,13 @@ public final class MaypoleRegister {
             return tokens.number <= most || fail(TOO_MUCH);
         }
 
-        private boolean readLineEnd(Tokens tokens) {
+        private boolean readLineEnd() {
             tokens.step();
             return tokens.isSign(LINE_END) || fail(WRONG);
         }
 
         /** Reads an E and the ';' behind it. */
-        private boolean readExpression(Tokens tokens, Script script) {
+        private boolean readExpression(Script script) {
             waitingCount = 0;
             openCount = 0;
             wantsOperand = true;
@@ -1113,14 +1112,14 @@ public final class MaypoleRegister {
                     settle(script, 0);
                     return true;
                 }
-                if (!(wantsOperand ? readOperand(tokens, script) : readOperator(tokens, script))) {
+                if (!(wantsOperand ? readOperand(script) : readOperator(script))) {
                     return false;
                 }
             }
             return false;
         }
 
-        private boolean readOperand(Tokens tokens, Script script) {
+        private boolean readOperand(Script script) {
             if (tokens.isSign(OPEN)) {
                 return openOne();
             }
@@ -1147,17 +1146,18 @@ public final class MaypoleRegister {
             }
             openCount++;
             mayNegate = true;
-            return putWaiting(OPEN);
+            putWaiting(OPEN);
+            return true;
         }
 
-        private boolean readOperator(Tokens tokens, Script script) {
+        private boolean readOperator(Script script) {
             if (tokens.isSign(CLOSE) && openCount > 0) {
                 settle(script, 1);
                 openCount--;
                 waitingCount--;
                 return true;
             }
-            int sign = joiningSign(tokens);
+            int sign = joiningSign();
             if (sign == NONE) {
                 return fail(WRONG);
             }
@@ -1172,7 +1172,7 @@ public final class MaypoleRegister {
         }
 
         /** The sign that may stand between two parts of an E, or NONE if the token is none such. */
-        private static int joiningSign(Tokens tokens) {
+        private int joiningSign() {
             if (tokens.isWord(Word.JOIN) && tokens.wordNumber() != NOT) {
                 return tokens.wordNumber();
             }
@@ -1197,16 +1197,18 @@ public final class MaypoleRegister {
         }
 
         private boolean await(int sign, Script script) {
-            return hasKnotLeft(script) ? putWaiting(sign) : fail(TOO_MUCH);
-        }
-
-        private boolean putWaiting(int sign) {
-            if (waitingCount < 0 || waitingCount >= waiting.length) {
+            if (!hasKnotLeft(script)) {
                 return fail(TOO_MUCH);
             }
-            waiting[waitingCount] = sign;
-            waitingCount++;
+            putWaiting(sign);
             return true;
+        }
+
+        private void putWaiting(int sign) {
+            if (waitingCount >= 0 && waitingCount < waiting.length) {
+                waiting[waitingCount] = sign;
+                waitingCount++;
+            }
         }
 
         private int lastWaiting() {

@@ -155,6 +155,13 @@ public final class TextTests {
         dueFault("slip 5:", 1, 6);
         dueFault("slip\t5;", 1, 4);
         dueFault("slip 5;!", 1, 7);
+        dueFault("slip 5;\u0000", 1, 7);
+        dueFault("slip 5;\u00ff", 1, 7);
+        dueFault("slip 5;\u007f", 1, 7);
+        dueFault("slip 5\n;\n\n", 0, 0);
+        dueFault("dancer a`;", 1, 8);
+        dueFault("dancer a{;", 1, 8);
+        dueFault("slip 5/;", 1, 6);
         dueFault("over under;", 1, 5);
     }
 

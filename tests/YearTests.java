@@ -6,6 +6,7 @@ public final class YearTests {
         promise20Go();
         promise20Refused();
         promise20SlipsByNumbers();
+        promise20NumbersAreSpared();
         promise20SlipsByLaw();
         promise21Ahead();
         promise21AsItGoes();
@@ -100,6 +101,27 @@ public final class YearTests {
             dueSlips(slip, 0);
             dueSlips(slip, 99999);
             dueSlips(slip, 4711);
+        }
+    }
+
+    /** Where E is 0 or 100 no number is taken: those of the years behind them come as if these had not been. */
+    private static void promise20NumbersAreSpared() {
+        MaypoleRegister x = Check.with("dancer a;dancer b;seed 31;law loosen 50*(year>3)+100*(year=1 or year=2)"
+                + "+50*(year=5 or year=8)-50*(year=10);");
+        x.feast(1, 20);
+        x.feast(1, 20);
+        int[] odds = {0, 100, 100, 0, 50, 100, 50, 50, 100, 50, 0, 50, 50, 50, 50, 50, 50, 50, 50, 50};
+        long last = 31;
+        int crossings = 40;
+        for (int year = 0; year < odds.length; year++) {
+            boolean slips = odds[year] == 100;
+            if (odds[year] == 50) {
+                last = (last * 1103515245L + 12345L) % 2147483648L;
+                slips = last / 65536 % 100 < 50;
+            }
+            crossings -= slips ? 1 : 0;
+            x.go(1);
+            Check.due("crossings behind year " + year, x.count(5), crossings);
         }
     }
 

@@ -310,7 +310,7 @@ public final class MaypoleRegister {
             case 2:
                 return trial.refused - now.refused;
             case 3:
-                return Integer.bitCount(trial.plait.boundPairs());
+                return trial.plait.boundCount;
             default:
                 return bit(trial.plait.turnedPairs() == 0);
         }
@@ -513,7 +513,7 @@ public final class MaypoleRegister {
             case 8:
                 return now.slipped;
             case 9:
-                return Integer.bitCount(now.plait.boundPairs());
+                return now.plait.boundCount;
             case 10:
                 return now.plait.freeCount();
             case 11:
@@ -1230,11 +1230,14 @@ public final class MaypoleRegister {
         int left = 0;
         int leftCount = 0;
         int size = 0;
+        /** How many pairs are BOUND. */
+        int boundCount = 0;
 
         void begin(int whoIsLeft) {
             left = whoIsLeft;
             leftCount = 0;
             size = 0;
+            boundCount = 0;
             for (int dancer = 0; dancer < MOST_DANCERS; dancer++) {
                 if (isLeft(dancer) && leftCount < order.length) {
                     order[leftCount] = dancer;
@@ -1330,8 +1333,10 @@ public final class MaypoleRegister {
             int other = order[place + 1];
             order[place] = other;
             order[place + 1] = one;
+            boundCount -= bit(bondOf(one, other) != 0);
             addBond(one, other, more);
             addBond(other, one, more);
+            boundCount += bit(bondOf(one, other) != 0);
         }
 
         private void addBond(int one, int other, int more) {
@@ -1802,9 +1807,9 @@ public final class MaypoleRegister {
         /** Whether the row is the one that is looked for; a count goes on behind each. */
         private boolean suits() {
             if (pairs != ANY_PAIRS) {
-                return plait.boundPairs() == pairs;
+                return plait.boundCount == Integer.bitCount(pairs) && plait.boundPairs() == pairs;
             }
-            if (plait.boundPairs() != 0 || !coil.straightens(plait)) {
+            if (plait.boundCount != 0 || !coil.straightens(plait)) {
                 return false;
             }
             found++;

@@ -174,6 +174,12 @@ public final class SearchTests {
         Check.due("no such one", x.tied(0, 1, 4), Check.NONE);
         Check.due("below 0", x.tied(-1, 1, 2), Check.NONE);
         Check.due("no such second", x.tied(0, 9, 2), Check.NONE);
+        MaypoleRegister z = Check.withDancers(4);
+        Check.cross(z, 0, 0);
+        Check.due("the first one lets go in thought", z.tied(1, 2, 3), 0);
+        Check.due("the second one lets go in thought", z.tied(0, 2, 3), 0);
+        Check.cross(z, 2, 5, 2, 5, 2, 5);
+        Check.due("tied but for the first one", z.tied(1, 2, 3), 1);
         // the fourth dances round them, which the three don't mind
         Check.cross(x, 4, 4);
         Check.due("the fourth lets go in thought", x.tied(0, 1, 2), 1);

@@ -322,6 +322,17 @@ public final class YearTests {
         Check.due("turned", still.tried(4, 0, 2), 2);
         Check.due("turned, 1 year", still.tried(4, 0, 1), 1);
         Check.due("now is as it was", still.count(5) + still.count(4), 0);
+        MaypoleRegister order = Check.with("dancer a;dancer b;over 0 0;under 1 0;under 2 0;law may above=0;");
+        // a passes over b; b stands left then, so that a passes over again by under; then b by under
+        Check.due("as it goes", order.tried(0, 0, 3), 2);
+        Check.due("turned, none is danced but the second", order.tried(4, 0, 3), 1);
+        Check.due("turned, 1 year", order.tried(4, 0, 1), 0);
+        Check.due("turned no more", order.tried(0, 0, 1), 1);
+        Check.due("ahead isn't turned", order.ahead(1, 0), 1);
+        Check.due("all may", order.tried(3, 0, 3), 3);
+        Check.due("ahead not all may", order.ahead(3, 0), 2);
+        order.go(3);
+        Check.due("nor in years", order.count(5), 2);
         Check.due("left as it was", still.count(1), 3);
         Check.due("what 5", still.tried(5, 0, 0), Check.NONE);
         Check.due("what below 0", still.tried(-1, 0, 0), Check.NONE);

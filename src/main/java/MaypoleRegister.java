@@ -1050,10 +1050,7 @@ public final class MaypoleRegister {
         }
 
         private boolean readSlip(Script script) {
-            if (script.hasSlip) {
-                return fail(TOLD_ALREADY);
-            }
-            if (!readNumber(100)) {
+            if (!readNumberOnce(script.hasSlip, 100)) {
                 return false;
             }
             script.hasSlip = true;
@@ -1062,15 +1059,16 @@ public final class MaypoleRegister {
         }
 
         private boolean readSeed(Script script) {
-            if (script.hasSeed) {
-                return fail(TOLD_ALREADY);
-            }
-            if (!readNumber(99999)) {
+            if (!readNumberOnce(script.hasSeed, 99999)) {
                 return false;
             }
             script.hasSeed = true;
             script.seed = tokens.number;
             return readLineEnd();
+        }
+
+        private boolean readNumberOnce(boolean isTold, int most) {
+            return isTold ? fail(TOLD_ALREADY) : readNumber(most);
         }
 
         /** The RULE of a law, or NONE behind a FAULT. */

@@ -35,8 +35,8 @@ public final class ReadingTests {
         Check.due("place below 0", x.read(0, 0, -1, true), Check.NONE);
         Check.due("two are read", x.count(11), 2);
         x.letGo(1);
-        Check.due("a dancer who isn't left", x.read(0, 1, 0, true), Check.NONE);
-        Check.due("one who is", x.read(0, 2, 0, true), 2);
+        Check.due("a dancer who isn't left", x.read(0, 1, 0, true), 2);
+        Check.due("one who is", x.read(0, 2, 0, true), 3);
         Check.due("of nobody", new MaypoleRegister().read(0, 0, 0, true), Check.NONE);
     }
 
@@ -198,6 +198,13 @@ public final class ReadingTests {
         Check.due("all struck", x.fits(0), 0b1111);
         Check.due("a bond of one who isn't left is read", x.readBond(0, 3, 0, true), 6);
         Check.due("and isn't so", x.fits(0), 0);
+        x.strike(6);
+        Check.due("struck too", x.fits(0), 0b1111);
+        Check.due("a place of one who isn't left is read", x.read(0, 3, 0, false), 8);
+        Check.due("and isn't so", x.fits(0), 0);
+        Check.due("the place where he stood", x.read(0, 3, 3, true), 9);
+        x.strike(8);
+        Check.due("isn't so either", x.fits(0), 0);
         x.undo();
         Check.due("he is back", x.fits(0), 0b111111);
     }

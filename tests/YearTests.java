@@ -11,7 +11,7 @@ public final class YearTests {
         promise21Ahead();
         promise21AsItGoes();
         promise28Holds();
-        promise28HoldsWithoutCrossings();
+        promise28HoldsWhateverIsDanced();
         promise34Chance();
         promise35Tried();
         Check.finish("YearTests");
@@ -240,17 +240,25 @@ public final class YearTests {
         Check.due("now is as it was", x.count(5) + x.count(4), 0);
     }
 
-    private static void promise28HoldsWithoutCrossings() {
+    /** It goes by slip told and by n alone: neither by laws nor by the plait, now or as it would go on. */
+    private static void promise28HoldsWhateverIsDanced() {
         MaypoleRegister x = Check.with("dancer a;dancer b;over 2 0;slip 50;");
-        dueHolds(x, 2, 1, 1);
-        dueHolds(x, 3, 1, 2);
-        dueHolds(x, 6, 1, 16);
+        dueHolds(x, 2, 1, 4);
+        dueHolds(x, 3, 1, 8);
+        dueHolds(x, 6, 1, 64);
         x.go(2);
         dueHolds(x, 2, 1, 4);
-        x = Check.with("dancer a;dancer b;over 0 0;slip 50;law may 0;");
+        Check.cross(x, 0, 0, 1);
+        dueHolds(x, 2, 1, 4);
+        x.letGo(0);
+        dueHolds(x, 2, 1, 4);
+        x = Check.with("dancer a;dancer b;over 0 0;slip 50;law may 0;law loosen 100;");
+        dueHolds(x, 6, 1, 64);
+        x = Check.with("dancer a;dancer b;over 0 0;law loosen 100;");
         dueHolds(x, 6, 1, 1);
         x = Check.with("slip 100;");
-        dueHolds(x, 6, 1, 1);
+        dueHolds(x, 6, 0, 1);
+        dueHolds(new MaypoleRegister(), 6, 1, 1);
     }
 
     private static int homeOfTen(int dancers, long seed, int n) {

@@ -389,15 +389,8 @@ final class Model {
         if (n < 0 || n > 6 || what < 0 || what > 1) {
             return NONE;
         }
-        BigInteger above = BigInteger.ONE;
-        BigInteger below = BigInteger.ONE;
-        ModelState then = now.copy();
-        for (int i = 0; i < n; i++) {
-            if (then.pass("never", false, false)) {
-                above = above.multiply(BigInteger.valueOf(100 - text.slip));
-                below = below.multiply(BigInteger.valueOf(100));
-            }
-        }
+        BigInteger above = BigInteger.valueOf(100 - text.slip).pow(n);
+        BigInteger below = BigInteger.valueOf(100).pow(n);
         BigInteger shared = above.gcd(below);
         return (what == 0 ? above : below).divide(shared).longValue();
     }
@@ -411,7 +404,7 @@ final class Model {
     }
 
     int read(int n, int dancer, int place, boolean is) {
-        boolean can = n >= 0 && n <= 48 && isLeft(dancer) && place >= 0 && place <= 5;
+        boolean can = n >= 0 && n <= 48 && isDancer(dancer) && place >= 0 && place <= 5;
         return can ? put(0, dancer, place, n, bit(is)) : NONE;
     }
 

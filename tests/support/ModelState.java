@@ -203,15 +203,14 @@ final class ModelState {
         return true;
     }
 
-    /** One year: "numbers", "goes" (as it goes) or "never" (nothing slips); answers whether it might have slipped. */
-    boolean pass(String way, boolean allMay, boolean turned) {
+    /** One year: "numbers", "goes" (as it goes) or "never" (nothing slips). */
+    void pass(String way, boolean allMay, boolean turned) {
         for (int[] telling : text.tellings) {
             if (telling[0] == year && !dance(telling[1], turned ? 1 - telling[2] : telling[2], allMay)) {
                 refused++;
             }
         }
-        boolean risks = !plait.isEmpty();
-        if (risks) {
+        if (!plait.isEmpty()) {
             Long worth = worthOfLast();
             long odds = worth == null ? text.slip : Math.max(0, Math.min(100, worth));
             boolean slips = way.equals("goes") && odds >= 50;
@@ -224,6 +223,5 @@ final class ModelState {
             }
         }
         year++;
-        return risks;
     }
 }

@@ -381,12 +381,9 @@ public final class MaypoleRegister {
         if (n < 0 || n > 6 || what < 0 || what > 1) {
             return NONE;
         }
-        trial.takeFrom(now);
-        years.choose(NOTHING_SLIPS, false, false);
-        years.pass(told, trial, n);
         long above = 1;
         long below = 1;
-        for (int i = 0; i < years.risks && i < n; i++) {
+        for (int i = 0; i < n; i++) {
             above *= 100 - told.slip;
             below *= 100;
         }
@@ -398,7 +395,7 @@ public final class MaypoleRegister {
     }
 
     public int read(int n, int dancer, int place, boolean is) {
-        if (n < 0 || n > MOST_CROSSINGS || !now.plait.isLeft(dancer) || place < 0 || place >= MOST_DANCERS) {
+        if (n < 0 || n > MOST_CROSSINGS || !isDancer(dancer) || place < 0 || place >= MOST_DANCERS) {
             return NONE;
         }
         return readings.putPlace(n, dancer, place, is);
@@ -1555,8 +1552,6 @@ public final class MaypoleRegister {
         private int way = BY_NUMBERS;
         private boolean allMay = false;
         private boolean turned = false;
-        /** In how many of the YEARS that went by the last one might have SLIPPED. */
-        int risks = 0;
 
         void choose(int newWay, boolean isAllMay, boolean isTurned) {
             way = newWay;
@@ -1565,19 +1560,15 @@ public final class MaypoleRegister {
         }
 
         void pass(Script told, Dance dance, int howMany) {
-            risks = 0;
             for (int n = 0; n < howMany; n++) {
                 for (int i = 0; i < told.tellings; i++) {
                     if (told.yearOfTelling(i) == dance.year) {
                         danceTold(told, dance, told.codeOfTelling(i));
                     }
                 }
-                if (dance.plait.size > 0) {
-                    risks++;
-                    if (doesSlip(told, dance)) {
-                        dance.plait.dropLast();
-                        dance.slipped++;
-                    }
+                if (dance.plait.size > 0 && doesSlip(told, dance)) {
+                    dance.plait.dropLast();
+                    dance.slipped++;
                 }
                 dance.year++;
             }

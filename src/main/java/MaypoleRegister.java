@@ -707,7 +707,7 @@ public final class MaypoleRegister {
             } else if (isDigit(first)) {
                 stepNumber();
             } else {
-                stepSign(first);
+                stepSign(first, byteAt(next + 1));
             }
         }
 
@@ -748,30 +748,26 @@ public final class MaypoleRegister {
             kind = NUMBER;
         }
 
-        private void stepSign(int first) {
-            next++;
-            kind = SIGN;
-            switch (first) {
-                case ';': sign = LINE_END; break;
-                case '(': sign = OPEN; break;
-                case ')': sign = CLOSE; break;
-                case '+': sign = PLUS; break;
-                case '-': sign = MINUS; break;
-                case '*': sign = TIMES; break;
-                case '/': sign = DIVIDED; break;
-                case '=': sign = SAME; break;
-                case '<': sign = stepOver('=') ? LESS_OR_SAME : stepOver('>') ? OTHER : LESS; break;
-                case '>': sign = stepOver('=') ? MORE_OR_SAME : MORE; break;
-                default: kind = BAD; break;
-            }
+        private void stepSign(int first, int second) {
+            sign = signOf(first, second);
+            kind = sign == NONE ? BAD : SIGN;
+            next += sign == LESS_OR_SAME || sign == OTHER || sign == MORE_OR_SAME ? 2 : 1;
         }
 
-        private boolean stepOver(int wanted) {
-            if (byteAt(next) != wanted) {
-                return false;
+        private static int signOf(int first, int second) {
+            switch (first) {
+                case ';': return LINE_END;
+                case '(': return OPEN;
+                case ')': return CLOSE;
+                case '+': return PLUS;
+                case '-': return MINUS;
+                case '*': return TIMES;
+                case '/': return DIVIDED;
+                case '=': return SAME;
+                case '<': return second == '=' ? LESS_OR_SAME : second == '>' ? OTHER : LESS;
+                case '>': return second == '=' ? MORE_OR_SAME : MORE;
+                default: return NONE;
             }
-            next++;
-            return true;
         }
 
         private int byteAt(int i) {
@@ -1047,7 +1043,10 @@ public final class MaypoleRegister {
         }
 
         private boolean readSlip(Script script) {
-            if (!readNumberOnce(script.hasSlip, 100)) {
+            if (script.hasSlip) {
+                return fail(TOLD_ALREADY);
+            }
+            if (!readNumber(100)) {
                 return false;
             }
             script.hasSlip = true;
@@ -1056,16 +1055,15 @@ public final class MaypoleRegister {
         }
 
         private boolean readSeed(Script script) {
-            if (!readNumberOnce(script.hasSeed, 99999)) {
+            if (script.hasSeed) {
+                return fail(TOLD_ALREADY);
+            }
+            if (!readNumber(99999)) {
                 return false;
             }
             script.hasSeed = true;
             script.seed = tokens.number;
             return readLineEnd();
-        }
-
-        private boolean readNumberOnce(boolean isTold, int most) {
-            return isTold ? fail(TOLD_ALREADY) : readNumber(most);
         }
 
         /** The RULE of a law, or NONE behind a FAULT. */
@@ -1328,17 +1326,15 @@ public final class MaypoleRegister {
             int other = order[place + 1];
             order[place] = other;
             order[place + 1] = one;
-            boundCount -= bit(bondOf(one, other) != 0);
-            addBond(one, other, more);
-            addBond(other, one, more);
-            boundCount += bit(bondOf(one, other) != 0);
-        }
-
-        private void addBond(int one, int other, int more) {
             int i = one * MOST_DANCERS + other;
-            if (i >= 0 && i < bonds.length) {
-                bonds[i] += more;
+            int mirrored = other * MOST_DANCERS + one;
+            if (i < 0 || i >= bonds.length || mirrored < 0 || mirrored >= bonds.length) {
+                return;
             }
+            boundCount -= bit(bonds[i] != 0);
+            bonds[i] += more;
+            bonds[mirrored] = bonds[i];
+            boundCount += bit(bonds[i] != 0);
         }
 
         void takeOutTwo(int first) {

@@ -73,6 +73,31 @@ final class Check {
         return text.toString();
     }
 
+    static String times(String part, int many) {
+        StringBuilder text = new StringBuilder();
+        for (int i = 0; i < many; i++) {
+            text.append(part);
+        }
+        return text.toString();
+    }
+
+    /** Whether a text, read by a new register, has this fault at this place. */
+    static void dueFault(String text, int fault, int place) {
+        MaypoleRegister x = new MaypoleRegister();
+        due("text " + text, text(x, text), NONE);
+        due("fault of " + text, x.fault(0), fault);
+        due("place of " + text, x.fault(1), place);
+    }
+
+    /** Whether a text, read by a new register, has no fault; the answer is that register. */
+    static MaypoleRegister dueNoFault(String text, int lines) {
+        MaypoleRegister x = new MaypoleRegister();
+        due("text " + text, text(x, text), lines);
+        due("fault of " + text, x.fault(0), 0);
+        due("place of " + text, x.fault(1), NONE);
+        return x;
+    }
+
     /** Dances crossings by their codes. */
     static void cross(MaypoleRegister register, int... codes) {
         for (int code : codes) {

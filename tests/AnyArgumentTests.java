@@ -61,20 +61,27 @@ public final class AnyArgumentTests {
         return ((com.sun.management.ThreadMXBean) ManagementFactory.getThreadMXBean()).getCurrentThreadAllocatedBytes();
     }
 
+    /** The least of some measurings: the machine itself makes an object now and then while it compiles. */
     private static void callsMakeNoObjects() {
         callAll(Check.with(TEXT));
-        MaypoleRegister register = Check.with(TEXT);
-        long before = allocated();
+        long least = Long.MAX_VALUE;
         long sum = 0;
-        for (int i = 0; i < 10; i++) {
-            sum += callAll(register);
+        for (int round = 0; round < 9; round++) {
+            MaypoleRegister register = Check.with(TEXT);
+            long before = allocated();
+            for (int i = 0; i < 10; i++) {
+                sum += callAll(register);
+            }
+            least = Math.min(least, allocated() - before);
         }
-        long made = allocated() - before;
-        Check.due("bytes made by 10 rounds of calls, " + made + " (" + sum + ")", made < 1000, true);
-        before = allocated();
-        new MaypoleRegister().count(0);
-        made = allocated() - before;
-        Check.due("bytes of a register, " + made, made < 40000, true);
+        Check.due("bytes made by 10 rounds of calls, " + least + " (" + sum + ")", least < 1000, true);
+        least = Long.MAX_VALUE;
+        for (int round = 0; round < 9; round++) {
+            long before = allocated();
+            new MaypoleRegister().count(0);
+            least = Math.min(least, allocated() - before);
+        }
+        Check.due("bytes of a register, " + least, least < 40000, true);
     }
 
     private static long callAll(MaypoleRegister x) {

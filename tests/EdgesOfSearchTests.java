@@ -461,6 +461,9 @@ public final class EdgesOfSearchTests {
                         Check.due("make", x.make(0b101000, 0) * 100 + x.make(0b101000, 1) * 10 + x.make(0b101000, 3), 424);
                         Check.due("make by none", x.make(0b111111, 1), -2);
                         Check.due("make of none", x.make(0, 0), 0);
+                        MaypoleRegister tied = danced(3, 0, 3, 0, 3, 0, 3);
+                        Check.due("make of none", tied.make(0, 0), 0);
+                        Check.due("nobody is bound, but it isn't loose", tied.danceBack(0), -2);
                     } else {
                         Check.due("loose rows", x.looseRows(4), 74);
                         Check.due("loose rows", x.looseRows(2), 6);
